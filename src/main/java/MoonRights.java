@@ -763,7 +763,7 @@ public final class MoonRights {
             int sum = quarters;
             int taken = 0;
             for (int n = tonight; n < easter; n++) {
-                if (sum > 0 && nightsWith(n, sum) == fewest[n * SUMS + sum]) {
+                if (nightsWith(n, sum) == fewest[n * SUMS + sum]) {
                     if (taken == k) {
                         return n;
                     }

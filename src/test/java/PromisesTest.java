@@ -115,6 +115,10 @@ public final class PromisesTest {
         parish("m0;e1;", 2);
         parish("c0;c0;c0;", 3);
         parish("f1 1;s0 1;f1 1;s1 1;", 4);
+        parish(" ".repeat(200), 0);
+        parish(" ".repeat(197) + "c1;", 1);
+        fault(" ".repeat(198) + "c1", 200);
+        fault("c" + " ".repeat(198) + "1", 200);
         readingFaults();
         readingAnew();
     }
@@ -186,6 +190,31 @@ public final class PromisesTest {
         due("parish() of nothing", x.parish(), 0);
         due("nobody", x.count(0), 0);
         due("no strips", x.count(1), 0);
+        readingThrice();
+    }
+
+    /** Nothing of any earlier text, a faulty one too, comes through into a later one. */
+    private static void readingThrice() {
+        MoonRights x = parish("f9 2;s0 9;m4;e9;c0;c5;c99;", 7);
+        due("a cloud", x.ploughs(0, 0), 9);
+        due("least", x.least(0, 0, -1), 5);
+        tell(x, "f9 1;s0 9;m8;");
+        due("parish() the second time", x.parish(), 3);
+        due("least anew", x.least(0, 0, -1), 9);
+        due("the nights anew", x.least(0, 0, 0), 0);
+        due("not ploughed yet", x.farmer(0, 4), 0);
+        tell(x, "f9 1;m2;e4;c7;x");
+        due("parish() of a fault", x.parish(), -24);
+        x.clear();
+        tell(x, "f9 1;s0 9;");
+        due("parish() the third time", x.parish(), 2);
+        due("phase", x.count(2), 0);
+        due("Easter", x.count(3), 30);
+        for (int n = 0; n < 100; n++) {
+            due("cloud in " + n, x.night(n, 1), 0);
+        }
+        tell(x, "m1;e2;");
+        due("phase and Easter may be told again in another text", x.parish(), 2);
     }
 
     private static void farmers() {
@@ -296,6 +325,10 @@ public final class PromisesTest {
         due("ploughs(-1, 0)", x.ploughs(-1, 0), BAD);
         due("ploughs(0, 4)", x.ploughs(0, 4), BAD);
         due("ploughs(0, -1)", x.ploughs(0, -1), BAD);
+        MoonRights done = parish("f9 4;s0 8;m4;", 3);
+        due("done at once", done.ploughs(0, 0), 0);
+        done.passes();
+        due("done already", done.ploughs(0, 0), STATE);
         MoonRights dark = parish("f9 2;s0 9;", 2);
         due("no moon", dark.ploughs(0, 0), STATE);
         pass(dark, 34);
@@ -504,6 +537,17 @@ public final class PromisesTest {
         due("no first one", x.soonest(3, -1, 0), BAD);
         due("no strip", x.soonest(0, -1, 3), BAD);
         due("no strip", x.soonest(0, -1, -1), BAD);
+        // Moons from night 0 on: 4 3 3 2 2 1 1 0 0 0 1 ..
+        MoonRights two = parish("f0 1;f4 1;f7 1;s0 5;s0 4;s0 1;m8;", 7);
+        due("all of the second one's quarters", two.soonest(0, 1, 1), 0);
+        due("the second one's are used up", two.soonest(0, 1, 0), NONE);
+        due("both are used up", two.soonest(1, 2, 0), 0);
+        two.lends(2, 1, 2);
+        due("the second one waits", two.soonest(0, 1, 0), 3);
+        pass(two, 6);
+        due("one furrow", two.soonest(1, -1, 2), 6);
+        two.passes();
+        due("one furrow by no moon", two.soonest(1, -1, 2), 10);
         pass(x, 96);
         due("the last night: the moon is 3", x.night(99, 0), 3);
         due("in the last night", x.soonest(1, 2, 0), 99);
@@ -524,6 +568,7 @@ public final class PromisesTest {
         pass(x, 9);
         due("none", x.need(1), NONE);
         MoonRights one = parish("f9 1;s0 1;s0 60;m6;e9;", 5);
+        due("all seven strips", parish("f0 1;s0 1;s0 1;s0 1;s0 1;s0 1;s0 1;s0 1;m8;", 9).need(0), 7);
         due("one of them has none", one.need(0), NONE);
         one.ploughs(0, 0);
         due("still", one.need(0), NONE);
@@ -563,6 +608,9 @@ public final class PromisesTest {
         due("covered", ties.match(1), 4);
         MoonRights even = parish("f4 1;f0 1;s0 4;s1 4;m6;e9;", 6);
         due("who has just enough has nothing over", even.match(0), NONE);
+        MoonRights one = parish("f3 1;f1 1;s0 4;m6;e9;", 5);
+        due("one quarter", one.match(0), 1);
+        due("one quarter", one.match(1), 1);
         due("nobody", new MoonRights().match(0), NONE);
     }
 
@@ -598,6 +646,9 @@ public final class PromisesTest {
     private static void lighting() {
         promise = 22;
         MoonRights x = parish("f9 1;f9 4;f9 2;m4;c1;", 5);
+        x.cuts(1, 0, 9);
+        due("the first one", x.lit(), 2);
+        x.forget();
         x.cuts(1, 0, 8);
         x.cuts(2, 1, 0);
         x.cuts(0, 12, 0);
@@ -630,6 +681,7 @@ public final class PromisesTest {
         pass(x, 30);
         due("behind Easter", x.mean(0, 3, 0), 0);
         due("behind Easter", x.mean(0, 3, 1), 1);
+        due("Easter is no night", parish("f9 1;m6;e2;", 3).mean(0, 10, 0), 6);
         due("mean(2, 0, 0)", x.mean(2, 0, 0), BAD);
         due("mean(-1, 0, 0)", x.mean(-1, 0, 0), BAD);
         due("mean(0, 11, 0)", x.mean(0, 11, 0), BAD);

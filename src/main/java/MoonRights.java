@@ -678,7 +678,9 @@ public final class MoonRights {
             value = 0;
             while (at < length && letters[at] >= '0' && letters[at] <= '9') {
                 // A long row of digits must not wrap around into a small number.
-                value = Math.min(MOST_NUMBER + 1, value * 10 + letters[at] - '0');
+                if (value <= MOST_NUMBER) {
+                    value = value * 10 + letters[at] - '0';
+                }
                 at++;
             }
             boolean idleZero = letters[place] == '0' && at - place > 1;
@@ -721,15 +723,11 @@ public final class MoonRights {
             }
             for (int n = easter - 1; n >= 0; n--) {
                 moons[n] = told.clouds[n] ? 0 : told.moon(n);
-                drawNight(n);
-            }
-        }
-
-        private void drawNight(int n) {
-            int row = n * SUMS;
-            for (int sum = 0; sum < SUMS; sum++) {
-                int without = fewest[row + SUMS + sum];
-                fewest[row + sum] = Math.min(without, nightsWith(n, sum));
+                int row = n * SUMS;
+                for (int sum = 0; sum < SUMS; sum++) {
+                    int without = fewest[row + SUMS + sum];
+                    fewest[row + sum] = Math.min(without, nightsWith(n, sum));
+                }
             }
         }
 

@@ -590,6 +590,12 @@ public final class BoundariesTest {
         due("a cloud's ploughing counts", x.ploughs(0, 1), STATE);
         x.undo();
         due("undone: he may", x.ploughs(0, 1), 9);
+        MoonRights two = told("f9 1;f9 1;s0 9;s1 9;m8;");
+        due("one of two", two.ploughs(0, 0), 5);
+        due("the other one has not", two.farmer(1, 4), 0);
+        due("the other one", two.ploughs(1, 1), 5);
+        due("the first one has still", two.farmer(0, 4), 1);
+        due("the first one again", two.ploughs(0, 0), STATE);
     }
 
     private static void someMoon() {
@@ -785,6 +791,8 @@ public final class BoundariesTest {
         x.dies(1);
         due("quarters", x.farmer(1, 0), 0);
         due("oxen as told", x.farmer(1, 1), 1);
+        due("he lives no more", x.farmer(1, 2), 0);
+        due("the other one does", x.farmer(0, 2), 1);
         due("quarters of all", x.now(3), 108);
         due("he counts", x.count(0), 2);
     }
@@ -914,6 +922,19 @@ public final class BoundariesTest {
         due("the first", x.least(0, 0, 0), 0);
         due("behind the last", x.least(0, 0, 19), -5);
         due("far behind", x.least(0, 0, MOST), -5);
+        // All nights of 1 and 2 quarters, and one of 3, have clouds: four of 4 and 15 of 3 are left.
+        StringBuilder text = new StringBuilder("f0 1;s0 60;s0 59;e60;c6;");
+        for (int n = 0; n < 60; n++) {
+            int moon = MOON_BY_R[n % 16];
+            text.append(moon == 1 || moon == 2 ? "c" + n + ";" : "");
+        }
+        MoonRights coarse = told(text.toString());
+        due("all of these nights, one quarter too many", coarse.least(0, 0, -1), 61);
+        due("all of these nights", coarse.least(0, 0, -2), 19);
+        due("the last one", coarse.least(0, 0, 18), 58);
+        due("two quarters too many", coarse.least(0, 1, -1), 61);
+        due("together", coarse.need(0), 122);
+        due("a night is gone", pass(coarse, 8).least(0, 0, -1), NONE);
     }
 
     private static void doneAlready() {
@@ -966,6 +987,11 @@ public final class BoundariesTest {
         due("a cloud takes 4 of 7", told("f7 1;s0 3;m8;c0;").soonest(0, -1, 0), 1);
         due("two clouds", told("f7 1;s0 3;m8;c0;c1;").soonest(0, -1, 0), NONE);
         due("a cloud takes those of both", told("f4 1;f7 1;s0 3;m8;c0;").soonest(0, 1, 0), 1);
+        due("a cloud cuts nothing", told("f99 1;s0 1;m8;c0;").soonest(0, -1, 0), 1);
+        due("a cloud in the last night", toldAt("f99 1;s0 1;c99;", 99).soonest(0, -1, 0), NONE);
+        due("the second one's last quarters", told("f0 1;f4 1;s0 4;m8;").soonest(0, 1, 0), 0);
+        due("the second one's are used up", told("f0 1;f4 1;s0 5;m8;").soonest(0, 1, 0), NONE);
+        due("the first one's are used up", told("f4 1;f0 1;s0 5;m8;").soonest(0, 1, 0), NONE);
     }
 
     private static void noMoonNobody() {
@@ -1110,6 +1136,8 @@ public final class BoundariesTest {
             x.cuts(k, 0, 4 * (k + 1));
         }
         due("just as much", x.lit(), 0);
+        x.cuts(3, 0, 15);
+        due("one less", x.lit(), 0);
         x.forget();
         for (int k = 0; k < 4; k++) {
             x.cuts(k, 1, 3 * (k + 1) + 1);
@@ -1153,6 +1181,9 @@ public final class BoundariesTest {
         meanIs(y, 0, 4, 2, 5);
         meanIs(y, 0, 10, 1, 1);
         meanIs(y, 0, 0, 0, 1);
+        // Nights of 3, 2 and 2 quarters.
+        meanIs(toldAt("f9 1;m8;e5;", 2), 0, 5, 7, 2);
+        meanIs(toldAt("f9 1;m8;e5;", 2), 0, 1, 7, 10);
     }
 
     private static void meanNights() {
@@ -1305,6 +1336,30 @@ public final class BoundariesTest {
         due("not married", x.farmer(0, 3), NONE);
         due("furrows", x.strip(0, 1), 3);
         due("six cuts again", x.cuts(0, 0, 0), 1);
+    }
+
+    /** A text that was told two texts ago, or was refused, leaves nothing behind either. */
+    private static void readThrice() {
+        MoonRights x = told("f9 4;f9 4;s0 9;s1 9;m8;e5;c0;c50;c99;");
+        due("least", x.least(0, 0, -1), 3);
+        type(x, "f9 1;s0 5;m6;e7;");
+        due("the second text", x.parish(), 4);
+        due("least anew", x.least(0, 0, -1), 5);
+        type(x, "f9 1;m1;e1;c0;c99;;");
+        due("a refused one", x.parish(), -28);
+        due("least as ahead of it", x.least(0, 0, -1), 5);
+        x.clear();
+        due("the third, of nothing", x.parish(), 0);
+        int[] counts = {0, 0, 0, 30, 0, 0};
+        for (int what = 0; what < 6; what++) {
+            due("count(" + what + ")", x.count(what), counts[what]);
+        }
+        for (int n = 0; n < 100; n++) {
+            due("night(" + n + ", 1)", x.night(n, 1), 0);
+        }
+        due("nobody", x.farmer(0, 0), BAD);
+        type(x, "f1 1;f1 1;f1 1;f1 1;f1 1;s0 1;s0 1;s0 1;s0 1;s0 1;s0 1;s0 1;m15;e60;");
+        due("a full text behind it", x.parish(), 14);
     }
 
     // ---- refusals in their order
@@ -1841,6 +1896,7 @@ public final class BoundariesTest {
         promise(2, "A letter (0 .. 255) comes to THE TEXT: how many it has. BAD; FULL.", BoundariesTest::letterBounds);
         promise(3, "THE TEXT is empty: how many letters it had.", BoundariesTest::emptyText);
         promise(4, "THE TEXT tells all anew, and is empty then: how many ITEMS.", BoundariesTest::howManyItems);
+        promise(4, "THE TEXT tells all anew, and is empty then", BoundariesTest::readThrice);
         promise(4, "-10 less FAULT: nothing changes.", BoundariesTest::faultChangesNothing);
         promise(5, "3 to whom he is married (NONE), 4 whether he PLOUGHED in THE NIGHT (1, 0). BAD.", BoundariesTest::farmerAnswers);
         promise(6, "Of a STRIP: 0 OWNER, 1 FURROWS left, 2 FURROWS as told. BAD.", BoundariesTest::stripAnswers);

@@ -9,11 +9,14 @@ import java.util.TreeMap;
 import java.util.TreeSet;
 
 /**
- * Long random runs beside a second, naive writing of the document: sets of
- * nights as lists, snapshots as copies, the text by a regular walk.
+ * Random runs, and each call by each number at an edge, beside a second, naive
+ * writing of the document: sets of nights as lists, snapshots as copies, the
+ * text by a regular walk.
  */
 public final class ModelTest {
-    private static final int RUNS = 1500;
+    private static final int RUNS = 2500;
+    /** What an object answers behind as many calls is free. */
+    private static final int MOST_CALLS = 512;
     private static int wrong;
     private static int calls;
 
@@ -335,6 +338,7 @@ public final class ModelTest {
     private static final class Run {
         final int number;
         final Random random;
+        int used;
         final MoonRights x = new MoonRights();
         final Model m = new Model();
 
@@ -344,6 +348,7 @@ public final class ModelTest {
         }
 
         void due(String call, long got, long want) {
+            if (++used > MOST_CALLS) return;
             calls++;
             if (got != want && wrong++ < 40) {
                 System.out.println("run " + number + ": " + call + " answered " + got + ", the model says " + want);
@@ -430,6 +435,24 @@ public final class ModelTest {
             }
         }
 
+        void both(Doing doing, int a, int b, int c) {
+            due(doing + " " + a + " " + b + " " + c, doing.by(x, a, b, c), doing.by(m, a, b, c));
+        }
+
+        /** What is undone, and what the images have. */
+        void comparePast() {
+            due("trace", x.trace(), m.trace);
+            for (int i = 0; i <= 10; i++) {
+                due("undo", x.undo(), m.undo());
+                for (int w = 0; w < 4; w++) due("now " + w, x.now(w), m.now(w));
+            }
+            for (int i = 0; i < 2; i++) {
+                due("back " + i, x.back(i), m.back(i));
+                for (int w = 0; w < 4; w++) due("now " + w, x.now(w), m.now(w));
+                for (int k = 0; k < 5; k++) due("farmer " + k, x.farmer(k, 3), m.farmer(k, 3));
+            }
+        }
+
         void compareAll() {
             for (int w = 0; w < 6; w++) {
                 due("now " + w, x.now(w), m.now(w));
@@ -440,15 +463,124 @@ public final class ModelTest {
         }
 
         void go() {
-            for (int round = 0; round < 3; round++) {
+            for (int round = 0; round < 3 && used < MOST_CALLS; round++) {
                 tell();
-                for (int i = 0; i < 60; i++) {
+                for (int i = 0; i < 40; i++) {
                     if (random.nextBoolean()) doSomething();
                     else ask();
                 }
                 compareAll();
             }
         }
+    }
+
+    private static final int MIN = Integer.MIN_VALUE, MAX = Integer.MAX_VALUE;
+    private static final int[] FARMER = {MIN, -9, -2, -1, 0, 1, 2, 3, 4, 5, MAX};
+    private static final int[] STRIP = {MIN, -1, 0, 1, 2, 6, 7, MAX};
+    private static final int[] NIGHT = {MIN, -1, 0, 1, 98, 99, 100, MAX};
+    private static final int[] WHAT = {MIN, -1, 0, 1, 2, 3, 4, 5, 6, MAX};
+    private static final int[] LETTER = {MIN, -1, 0, 32, 59, 255, 256, MAX};
+    private static final int[] LENT = {MIN, -1, 0, 1, 7, 8, 9, 10, 98, 99, 100, MAX};
+    private static final int[] NTH = {MIN, -3, -2, -1, 0, 1, 5, 18, 19, 59, 60, 63, 64, MAX};
+    private static final int[] CUT = {MIN, -1, 0, 1, 8, 9, 15, 16, 17, MAX};
+    private static final int[] TENTHS = {MIN, -1, 0, 1, 2, 5, 9, 10, 11, MAX};
+    private static final int[] IMAGE = {MIN, -1, 0, 1, 2, MAX};
+    private static final int[] NOTHING = {0};
+
+    /** A call by its name, which numbers it takes, and both its answers. */
+    private enum Doing {
+        TYPE(LETTER), CLEAR, PARISH, FARMER_OF(FARMER, WHAT), STRIP_OF(STRIP, WHAT), NIGHT_OF(NIGHT, WHAT), NOW(WHAT),
+        PLOUGHS(FARMER, STRIP), PASSES, LENDS(FARMER, FARMER, LENT), MARRIES(FARMER, FARMER), DIES(FARMER), UNDO,
+        LEAST(FARMER, STRIP, NTH), SOONEST(FARMER, FARMER, STRIP), NEED(FARMER), LACKS(FARMER), MATCH(WHAT),
+        CUTS(FARMER, NIGHT, CUT), FORGET, LIT, MEAN(FARMER, TENTHS, WHAT), RATE(WHAT, STRIP), KEEP(IMAGE), BACK(IMAGE),
+        COUNT(WHAT);
+
+        final int[] first, second, third;
+
+        Doing(int[]... numbers) {
+            first = numbers.length > 0 ? numbers[0] : NOTHING;
+            second = numbers.length > 1 ? numbers[1] : NOTHING;
+            third = numbers.length > 2 ? numbers[2] : NOTHING;
+        }
+
+        long by(MoonRights x, int a, int b, int c) {
+            return switch (this) {
+                case TYPE -> x.type(a); case CLEAR -> x.clear(); case PARISH -> x.parish();
+                case FARMER_OF -> x.farmer(a, b); case STRIP_OF -> x.strip(a, b); case NIGHT_OF -> x.night(a, b);
+                case NOW -> x.now(a); case PLOUGHS -> x.ploughs(a, b); case PASSES -> x.passes();
+                case LENDS -> x.lends(a, b, c); case MARRIES -> x.marries(a, b); case DIES -> x.dies(a);
+                case UNDO -> x.undo(); case LEAST -> x.least(a, b, c); case SOONEST -> x.soonest(a, b, c);
+                case NEED -> x.need(a); case LACKS -> x.lacks(a); case MATCH -> x.match(a);
+                case CUTS -> x.cuts(a, b, c); case FORGET -> x.forget(); case LIT -> x.lit();
+                case MEAN -> x.mean(a, b, c); case RATE -> x.rate(a, b); case KEEP -> x.keep(a);
+                case BACK -> x.back(a); case COUNT -> x.count(a);
+            };
+        }
+
+        long by(Model m, int a, int b, int c) {
+            return switch (this) {
+                case TYPE -> m.type(a); case CLEAR -> m.clear(); case PARISH -> m.parish();
+                case FARMER_OF -> m.farmer(a, b); case STRIP_OF -> m.strip(a, b); case NIGHT_OF -> m.night(a, b);
+                case NOW -> m.now(a); case PLOUGHS -> m.ploughs(a, b); case PASSES -> m.passes();
+                case LENDS -> m.lends(a, b, c); case MARRIES -> m.marries(a, b); case DIES -> m.dies(a);
+                case UNDO -> m.undo(); case LEAST -> m.least(a, b, c); case SOONEST -> m.soonest(a, b, c);
+                case NEED -> m.need(a); case LACKS -> m.lacks(a); case MATCH -> m.match(a);
+                case CUTS -> m.cuts(a, b, c); case FORGET -> m.forget(); case LIT -> m.lit();
+                case MEAN -> m.mean(a, b, c); case RATE -> m.rate(a, b); case KEEP -> m.keep(a);
+                case BACK -> m.back(a); case COUNT -> m.count(a);
+            };
+        }
+    }
+
+    /** A text, and what is done behind it, told by "n" (a night), "p01" (0 ploughs 1) and the like. */
+    private static final String[][] STATES = {
+        {"", ""},
+        {"", "nnk0"},
+        {"f9 1;", "c000"},
+        {"f9 2;f8 1;s0 9;m8;e1;", "k1p00n"},
+        {"f9 1;f8 2;f0 3;f7 1;s0 9;s1 2;s0 20;s2 5;m4;c1;e20;", "p11d3k0m01np00c003"},
+        {"f9 4;f8 3;f7 2;f6 1;f5 4;s0 60;s1 60;s2 1;s3 1;s4 9;s4 16;s0 2;m8;e60;c0;c59;c99;",
+            "p00p11p22p33p44nnnk0m02m31k1nnnnnnnnp46c409c100c216c000c009c114"},
+        {"f99 1;f99 4;s0 1;s1 60;m5;", "l01d0" + "n".repeat(99) + "p11"},
+        {"f0 1;f99 2;f9 1;s0 4;s1 60;s2 60;m8;e17;", "m12d2d1u"},
+        {"f9 1;s0 9;" + " ".repeat(100), "t"},
+    };
+
+    private static Run stateOf(int number) {
+        Run run = new Run(number);
+        String text = STATES[number][0], doings = STATES[number][1];
+        for (int i = 0; i < text.length(); i++) run.both(Doing.TYPE, text.charAt(i), 0, 0);
+        run.both(Doing.PARISH, 0, 0, 0);
+        for (int i = 0; i < doings.length(); i++) {
+            int a = i + 1 < doings.length() ? doings.charAt(i + 1) - '0' : 0, b = i + 2 < doings.length() ? doings.charAt(i + 2) - '0' : 0;
+            switch (doings.charAt(i)) {
+                case 'n' -> run.both(Doing.PASSES, 0, 0, 0);
+                case 'u' -> run.both(Doing.UNDO, 0, 0, 0);
+                case 'k' -> run.both(Doing.KEEP, a, 0, 0);
+                case 'd' -> run.both(Doing.DIES, a, 0, 0);
+                case 'p' -> run.both(Doing.PLOUGHS, a, b, 0);
+                case 'm' -> run.both(Doing.MARRIES, a, b, 0);
+                case 'l' -> run.both(Doing.LENDS, a, b, 50);
+                case 'c' -> run.both(Doing.CUTS, a, b, doings.charAt(i + 3) - '0');
+                case 't' -> { for (int n = 0; n < 200; n++) run.both(Doing.TYPE, "c77; ".charAt(n % 5), 0, 0); }
+                default -> { }
+            }
+        }
+        return run;
+    }
+
+    /** Each call by each of its numbers at an edge, in each state; behind it all is as the model has it. */
+    private static void edges() {
+        for (int state = 0; state < STATES.length; state++)
+            for (Doing doing : Doing.values())
+                for (int a : doing.first)
+                    for (int b : doing.second)
+                        for (int c : doing.third) {
+                            Run run = stateOf(state);
+                            run.both(doing, a, b, c);
+                            run.compareAll();
+                            run.comparePast();
+                        }
     }
 
     /** LEAST beside every set of nights, where they are few enough to be tried all. */
@@ -461,13 +593,15 @@ public final class ModelTest {
             MoonRights x = new MoonRights();
             for (int i = 0; i < text.length(); i++) x.type(text.charAt(i));
             x.parish();
+            int[] moons = new int[easter];
+            for (int n = 0; n < easter; n++) moons[n] = x.night(n, 0);
             int bestQuarters = 999;
             List<Integer> best = null;
             for (int set = 0; set < 1 << easter; set++) {
                 if ((set >> cloud & 1) == 1) continue;
                 int quarters = 0;
                 List<Integer> nights = new ArrayList<>();
-                for (int n = 0; n < easter; n++) if ((set >> n & 1) == 1) { quarters += x.night(n, 0); nights.add(n); }
+                for (int n = 0; n < easter; n++) if ((set >> n & 1) == 1) { quarters += moons[n]; nights.add(n); }
                 if (quarters * oxen < furrows) continue;
                 if (quarters < bestQuarters || quarters == bestQuarters && Model.before(nights, best)) {
                     bestQuarters = quarters;
@@ -487,6 +621,7 @@ public final class ModelTest {
 
     public static void main(String[] args) {
         leastBesideAllSets();
+        edges();
         for (int run = 0; run < RUNS; run++) {
             new Run(run).go();
         }

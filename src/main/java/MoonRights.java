@@ -13,9 +13,7 @@ public final class MoonRights {
     private static final int LAST_NIGHT = 99, LAST_EASTER = 60, FIRST_EASTER = 30;
     private static final int NOT_SO_MANY = -5, FAULT_BASE = -10;
 
-    private final char[] letters;
-    private int length;
-    private final Reader reader;
+    private final Text text;
     private Parish told;
     private Parish spare;
     private final Almanac almanac;
@@ -28,13 +26,11 @@ public final class MoonRights {
     private long traced;
 
     public MoonRights() {
-        letters = new char[MOST_LETTERS];
-        reader = new Reader(letters);
+        text = new Text();
         told = new Parish();
         spare = new Parish();
-        almanac = new Almanac(told);
+        almanac = new Almanac();
         standing = new Standing();
-        standing.begin(told);
         history = new History();
         images = new Standing[IMAGES];
         for (int i = 0; i < IMAGES; i++) {
@@ -51,22 +47,17 @@ public final class MoonRights {
         if (letter < 0 || letter > 255) {
             return BAD;
         }
-        if (length >= MOST_LETTERS) {
-            return FULL;
-        }
-        letters[length] = (char) letter;
-        length++;
-        return length;
+        return text.add((char) letter) ? text.length : FULL;
     }
 
     public int clear() {
-        int had = length;
-        length = 0;
+        int had = text.length;
+        text.length = 0;
         return had;
     }
 
     public int parish() {
-        int items = reader.read(length, spare);
+        int items = text.read(spare);
         if (items < 0) {
             return items;
         }
@@ -74,8 +65,8 @@ public final class MoonRights {
         Parish old = told;
         told = spare;
         spare = old;
-        length = 0;
-        almanac.begin(told);
+        text.length = 0;
+        almanac.drawn = false;
         standing.begin(told);
         history.forgetAll();
         cutList.size = 0;
@@ -371,7 +362,7 @@ public final class MoonRights {
             case 2: return told.phase;
             case 3: return told.easter;
             case 4: return cutList.size;
-            case 5: return length;
+            case 5: return text.length;
             default: return BAD;
         }
     }
@@ -431,7 +422,7 @@ public final class MoonRights {
     }
 
     private int leastQuarters(int k, int s) {
-        return almanac.quartersFor(standing.tonight, told.oxen[k], standing.left[s]);
+        return almanac.quartersFor(told, standing.tonight, told.oxen[k], standing.left[s]);
     }
 
     private int needOf(int k) {
@@ -529,24 +520,28 @@ public final class MoonRights {
         }
     }
 
-    /** Reads the text into a parish, token by token; what stands at the token that stops it is the fault. */
-    private static final class Reader {
+    /** The text; it is read into a parish token by token, and the place of the token that stops it is the fault. */
+    private static final class Text {
         private static final int END = -1, NUMBER = -2, WRONG = -3;
         private static final int MOST_NUMBER = 99;
 
-        private final char[] letters;
-        private int length;
+        private final char[] letters = new char[MOST_LETTERS];
+        int length;
         private int at;
         private int token;
         private int place;
         private int value;
 
-        Reader(char[] letters) {
-            this.letters = letters;
+        boolean add(char letter) {
+            if (length >= MOST_LETTERS) {
+                return false;
+            }
+            letters[length] = letter;
+            length++;
+            return true;
         }
 
-        int read(int textLength, Parish into) {
-            length = textLength;
+        int read(Parish into) {
             at = 0;
             into.empty();
             advance();
@@ -701,22 +696,12 @@ public final class MoonRights {
 
         private final int[] fewest = new int[(LAST_EASTER + 1) * SUMS];
         private final int[] moons = new int[LAST_EASTER];
-        private Parish told;
         private int easter;
-        private boolean drawn;
+        boolean drawn;
 
-        Almanac(Parish told) {
-            begin(told);
-        }
-
-        void begin(Parish parish) {
-            told = parish;
-            easter = parish.easter;
-            drawn = false;
-        }
-
-        private void draw() {
+        private void draw(Parish told) {
             drawn = true;
+            easter = told.easter;
             int last = easter * SUMS;
             for (int sum = 0; sum < SUMS; sum++) {
                 fewest[last + sum] = sum == 0 ? 0 : OUT_OF_REACH;
@@ -739,9 +724,9 @@ public final class MoonRights {
             return fewest[(n + 1) * SUMS + sum - moons[n]] + 1;
         }
 
-        int quartersFor(int tonight, int oxen, int furrows) {
+        int quartersFor(Parish told, int tonight, int oxen, int furrows) {
             if (!drawn) {
-                draw();
+                draw(told);
             }
             for (int sum = 0; sum < SUMS; sum++) {
                 if (sum * oxen >= furrows && nightsFor(tonight, sum) < OUT_OF_REACH) {

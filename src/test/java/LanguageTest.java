@@ -6,7 +6,9 @@ import java.nio.file.Files;
 import java.nio.file.Path;
 import java.util.Arrays;
 import java.util.List;
+import java.util.Map;
 import java.util.Set;
+import java.util.TreeMap;
 import java.util.TreeSet;
 import java.util.regex.Matcher;
 import java.util.regex.Pattern;
@@ -95,6 +97,39 @@ public final class LanguageTest {
             Matcher found = Pattern.compile(word).matcher(code);
             hold(!found.find(), "the source is without " + word);
         }
+        // What a constructor is not given, it can't keep: no object hands out parts while it is made.
+        hold(!Pattern.compile("\\bnew\\s+[A-Z]\\w*\\(\\s*[^)\\s]").matcher(code).find(), "constructors are given nothing");
+        hold(!Pattern.compile("[(,=]\\s*this\\s*[,);]").matcher(code).find(), "no object hands out itself");
+        depths(code);
+    }
+
+    /** Calls by name alone: two methods of one name count as one, so a depth is never told too small. */
+    private static void depths(String code) {
+        Map<String, Set<String>> called = new TreeMap<>();
+        Matcher head = Pattern.compile("(?m)^( +)(?!return|else)(?:[\\w\\[\\]]+ )+(\\w+)\\([^()]*\\) \\{$").matcher(code);
+        while (head.find()) {
+            int close = code.indexOf("\n" + head.group(1) + "}", head.end());
+            Matcher call = Pattern.compile("\\b(\\w+)\\(").matcher(code.substring(head.end(), close));
+            Set<String> names = called.computeIfAbsent(head.group(2), name -> new TreeSet<>());
+            while (call.find()) {
+                names.add(call.group(1));
+            }
+        }
+        hold(called.keySet().containsAll(List.of("match", "parish", "draw", "scanNumber")), "methods are found: " + called.keySet());
+        for (String name : called.keySet()) {
+            int depth = depth(called, name, 1);
+            hold(depth <= 8, name + " goes at most eight calls deep, not " + depth);
+        }
+    }
+
+    private static int depth(Map<String, Set<String>> called, String name, int level) {
+        int deepest = level;
+        if (level <= 20) {
+            for (String next : called.getOrDefault(name, Set.of())) {
+                deepest = Math.max(deepest, depth(called, next, level + 1));
+            }
+        }
+        return deepest;
     }
 
     /** Methods are indented by four or eight, and end by a brace in the same column. */
